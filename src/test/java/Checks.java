@@ -3,8 +3,14 @@ final class Checks {
     private static final int PRINTED_AT_MOST = 40;
     private static int made;
     private static int wrong;
+    private static String sentence = "";
 
     private Checks() {
+    }
+
+    /** What the document says; the checks that follow are for it. */
+    static void sentence(String text) {
+        sentence = "\"" + text + "\": ";
     }
 
     static void due(String call, int got, int want) {
@@ -42,7 +48,7 @@ final class Checks {
     private static void tell(String text) {
         wrong++;
         if (wrong <= PRINTED_AT_MOST) {
-            System.out.println(text);
+            System.out.println(sentence + text);
         }
     }
 }
