@@ -8,10 +8,13 @@ public final class TrafficBoundaryTest {
         putByResendWhenThereAre24();
         putByRestartWhenThereAre24();
         putOfAReplyWhenThereWere24();
+        anyMayBeTheNextToArrive();
+        requestGoesWhereItsStepIsDone();
         requestLostHasNotArrived();
         requestAnsweredBeforeIsLostToo();
         sameAnswerYesAgain();
         sameAnswerNoAgain();
+        allowedWhenItArrives();
         doingAndUndoingAreTwoRequests();
         keptOutlastsCrashes();
         replyLostWhenTheDeskIsDown();
@@ -67,6 +70,31 @@ public final class TrafficBoundaryTest {
                 .due("message 23", 20).due("message 24", BAD);
     }
 
+    private static void anyMayBeTheNextToArrive() {
+        Checks.sentence("Any of them may be the next to arrive, and leaves the line then");
+        for (int k = 0; k < 12; k++) {
+            Run run = supplied().go("12 * begin 0", "flush 36").due("deliver " + k, 1)
+                    .due("messages", 12).due("message 11", 1000 * k + 20);
+            for (int place = 0; place < 11; place++) {
+                run.due("message " + place, 1000 * (place < k ? place : place + 1));
+            }
+            run.due("deliver 11", 4).due("messages", 11).due("status " + k, 10);
+        }
+    }
+
+    private static void requestGoesWhereItsStepIsDone() {
+        Checks.sentence("requests from the desk to the bank or the hall, whichever does the step");
+        int[] otherNode = {1, 1, 0};
+        for (int op = 0; op < 3; op++) {
+            int node = 1 - otherNode[op];
+            Run.of("addStep 0 " + op + " 0 1", "supply 0 0 9", "supply 1 0 9", "begin 0", "flush 3")
+                    .go("repeat 0", "crash " + otherNode[op]).due("deliver 0", 1)
+                    .due("answered " + node, 1).due("answered " + otherNode[op], 0)
+                    .due("amount " + otherNode[op] + " 0", 9)
+                    .go("restart " + otherNode[op], "crash " + node).due("deliver 0", 6);
+        }
+    }
+
     private static void requestLostHasNotArrived() {
         Checks.sentence("If the same request has arrived there before (and was not lost)");
         supplied().go("begin 0", "flush 3", "repeat 0", "crash 0").due("deliver 0", 6)
@@ -93,6 +121,16 @@ public final class TrafficBoundaryTest {
         Run.of("addStep 0 0 0 5", "addStep 1 1 0 5", "begin 0", "begin 1", "flush 6", "repeat 0")
                 .due("deliver 0", 2).due("deliver 0", 1).due("amount 0 0", 5).due("deliver 0", 3)
                 .due("amount 0 0", 5).dueFrom0("message", 10, 1020, 10, BAD).due("answered 0", 2);
+    }
+
+    private static void allowedWhenItArrives() {
+        Checks.sentence("to do a step that is allowed now: not when it was sent");
+        Run.of("addStep 0 0 0 5", "addStep 1 1 0 5", "2 * begin 0", "begin 1", "flush 9")
+                .due("deliver 0", 2).due("deliver 1", 1).due("amount 0 0", 5)
+                .due("deliver 0", 1).due("amount 0 0", 0).dueFrom0("message", 10, 2020, 1020, BAD);
+        Run.of("addStep 0 2 0 5", "supply 1 0 5", "2 * begin 0", "flush 6")
+                .due("deliver 1", 1).due("deliver 0", 2).due("amount 1 0", 0)
+                .dueFrom0("message", 1022, 12, BAD);
     }
 
     private static void doingAndUndoingAreTwoRequests() {
